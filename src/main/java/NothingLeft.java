@@ -17,8 +17,6 @@ public final class NothingLeft {
     private final Rules rules = new Rules();
     private final Rules otherRules = new Rules();
     private final Reader reader = new Reader();
-    private final byte[] tape = new byte[TAPE];
-    private int tapeLength = 0;
     private int textFault = 0;
 
     private final Kitchen kitchen = new Kitchen();
@@ -39,28 +37,28 @@ public final class NothingLeft {
     // ---- the text
 
     public int feed(long v) {
-        if (tapeLength > TAPE - 8) {
+        if (reader.length > TAPE - 8) {
             return FULL;
         }
-        for (int i = 0; i < 8; i++) {
-            tape[tapeLength + i] = (byte) (v >>> (56 - 8 * i));
+        for (int shift = 56; shift >= 0; shift -= 8) {
+            reader.tape[reader.length] = (byte) (v >>> shift);
+            reader.length++;
         }
-        tapeLength += 8;
-        return tapeLength;
+        return reader.length;
     }
 
     public int end(int n) {
-        if (n < 0 || n > tapeLength) {
+        if (n < 0 || n > reader.length) {
             return BAD;
         }
-        int before = tapeLength;
-        tapeLength = n;
+        int before = reader.length;
+        reader.length = n;
         return before;
     }
 
     public int text() {
-        int lines = reader.readText(tape, tapeLength);
-        tapeLength = 0;
+        int lines = reader.readTape();
+        reader.length = 0;
         textFault = reader.faultFound;
         if (textFault != 0) {
             return -10 - reader.faultPlace;
@@ -464,7 +462,7 @@ public final class NothingLeft {
             case 1: return rules.suppers;
             case 2: return rowDays;
             case 3: return (imageKept[0] ? 1 : 0) + (imageKept[1] ? 1 : 0);
-            case 4: return tapeLength;
+            case 4: return reader.length;
             case 5: return sheets.isNothing(0) ? NONE : sheets.cellCount[0];
             default: return BAD;
         }
@@ -545,7 +543,6 @@ public final class NothingLeft {
             if (suppers > SUPPERS) {
                 return;
             }
-            resetSupper(suppers);
             kind[suppers] = SECOND;
             wants[suppers * THINGS + t] = 1;
             suppers++;
@@ -682,10 +679,9 @@ public final class NothingLeft {
             liked = other.liked;
         }
 
-        /** A row has sums of its own, and its first day is today, whether something was eaten or not. */
+        /** A row has sums of its own, and its first day is today, even if something was eaten today. */
         void beginRow(Kitchen from) {
             copyFrom(from);
-            eatenToday = NONE;
             resetSums();
         }
 
@@ -930,7 +926,6 @@ public final class NothingLeft {
 
         private void forget() {
             rows = 0;
-            rowsAsGood = 0;
             surestWeight = -1;
             rowsClosing = 0;
             suppersClosing = 0;
@@ -970,16 +965,16 @@ public final class NothingLeft {
         }
 
         private void judgeBest(long rank, Kitchen behind) {
-            if (rows > 1 && rank == bestRank) {
-                rowsAsGood++;
-            }
             if (rows == 1 || rank < bestRank) {
                 bestRank = rank;
-                rowsAsGood = 1;
+                rowsAsGood = 0;
                 bestThrown = behind.thrown;
                 bestPaid = behind.paid;
                 bestLiked = behind.liked;
                 System.arraycopy(places, 0, bestRow, 0, PLAN);
+            }
+            if (rank == bestRank) {
+                rowsAsGood++;
             }
         }
 
@@ -1012,17 +1007,17 @@ public final class NothingLeft {
         }
     }
 
-    /** Reads a text token by token, into rules of its own, up to its first fault. */
+    /** The tape, and how it is read: token by token, into rules of their own, up to the first fault. */
     private static final class Reader {
         private static final int END = 0, NAME = 1, NUMBER = 2, POINT = 3;
         private static final int NO_TOKEN = 1, NOT_HERE = 2, NOT_AS_TOLD = 3, TWICE = 4, TOO_MANY = 5, NOT_TOLD = 6;
         private static final int UNUSED = -1;
 
+        final byte[] tape = new byte[TAPE];
+        int length;
         final Rules told = new Rules();
         int faultFound;
         int faultPlace;
-        private byte[] bytes;
-        private int length;
         private int at;
         private int token;
         private int start;
@@ -1033,8 +1028,8 @@ public final class NothingLeft {
         private final int[] firstUse = new int[THINGS];
 
         /** How many lines there are, up to a fault. */
-        int readText(byte[] tape, int tapeLength) {
-            begin(tape, tapeLength);
+        int readTape() {
+            begin();
             int lines = 0;
             for (int i = 0; i <= TAPE; i++) {
                 if (!readToken() || token == END || !readLine()) {
@@ -1048,12 +1043,9 @@ public final class NothingLeft {
             return lines;
         }
 
-        private void begin(byte[] tape, int tapeLength) {
-            bytes = tape;
-            length = tapeLength;
+        private void begin() {
             at = 0;
             faultFound = 0;
-            faultPlace = 0;
             againTold = false;
             shopTold = false;
             for (int t = 0; t < THINGS; t++) {
@@ -1081,31 +1073,30 @@ public final class NothingLeft {
         }
 
         private boolean readToken() {
-            while (at < length && bytes[at] == ' ') {
+            while (at < length && tape[at] == ' ') {
                 at++;
             }
             start = at;
             number = 0;
             if (at >= length) {
                 token = END;
-            } else if (bytes[at] == ';') {
+            } else if (tape[at] == ';') {
                 token = POINT;
                 at++;
-            } else if (isLetter(bytes[at])) {
+            } else if (isLetter(tape[at])) {
                 token = NAME;
-                while (at < length && isLetter(bytes[at])) {
+                while (at < length && isLetter(tape[at])) {
                     at++;
                 }
             } else {
                 token = NUMBER;
-                while (at < length && isFigure(bytes[at])) {
-                    // Only two figures count: a longer number is refused, and must not wrap till then.
-                    number = (number * 10 + bytes[at] - '0') % 100;
+                while (at < length && isFigure(tape[at])) {
+                    number = number * 10 + tape[at] - '0';
                     at++;
                 }
             }
-            boolean isNoToken = token == NUMBER && (at == start || at - start > 2);
-            return !isNoToken || refuse(NO_TOKEN, start);
+            boolean isToken = token != NUMBER || at - start == 1 || at - start == 2;
+            return isToken || refuse(NO_TOKEN, start);
         }
 
         private static boolean isLetter(int sign) {
@@ -1121,7 +1112,7 @@ public final class NothingLeft {
                 return false;
             }
             for (int i = 0; i < word.length(); i++) {
-                if (bytes[start + i] != word.charAt(i)) {
+                if (tape[start + i] != word.charAt(i)) {
                     return false;
                 }
             }
@@ -1246,7 +1237,7 @@ public final class NothingLeft {
         private int lettersOnce(char from, int many) {
             int bits = 0;
             for (int i = start; i < at; i++) {
-                int bit = bytes[i] - from;
+                int bit = tape[i] - from;
                 if (bit < 0 || bit >= many || (bits >> bit & 1) != 0) {
                     return 0;
                 }
@@ -1270,7 +1261,7 @@ public final class NothingLeft {
                 if (token != NAME || isName("leaves") || isName("like") || isName("wont")) {
                     return true;
                 }
-                int t = bytes[start] - 'a';
+                int t = tape[start] - 'a';
                 if (at - start != 1 || t < 0 || t >= THINGS) {
                     return refuse(NOT_AS_TOLD, start);
                 }

@@ -120,6 +120,9 @@ public final class BestTest {
         NothingLeft x = Check.told("first like 9 wont p;first like 8 wont q;first like 1 wont rs;first wont pqrs;");
         Check.due("one day: none is fed least", x.fairest(1, 0), 0);
         Check.due("one day: as best", x.fairest(1, 10), 0);
+        Check.due("five days", x.fairest(5, 0), 3);
+        Check.due("one day again", x.fairest(1, 0), 0);
+        Check.due("one day again", x.fairest(1, 10), 0);
         Check.due("two days", x.fairest(2, 0), 1);
         Check.due("two days, liked most", x.fairest(2, 10), 0);
         Check.due("two days, liked most", x.fairest(2, 11), 1);
@@ -221,6 +224,7 @@ public final class BestTest {
         closesIs("one day", x, 1, 0, 0, 7, NONE);
         closesIs("two days", x, 2, 6, 7, 0, 0, 1);
         closesIs("three days", x, 3, 6, 7, 0, 0, 1, 2);
+        closesIs("five days", x, 5, 30, 7, 0, 0, 1, 0, 1, 2);
         closesIs("four days", x, 4, 18, 7, 0, 0, 1, 0, 1);
         x.eat(0, false);
         x.night();
@@ -319,6 +323,11 @@ public final class BestTest {
         Check.due("a night more on three days", x.cold(0, 3), 0);
         Check.due("of another thing", x.cold(1, 2), 2);
         Check.due("keeps as ever", x.thing(0, 0), 1);
+        NothingLeft z = Check.told("thing 1 1 0;second;");
+        z.put(0, 0, 5);
+        Check.due("not the first night", z.cold(0, 1), 0);
+        Check.due("one night more alone", z.cold(0, 2), 5);
+        Check.due("five days", z.cold(0, 5), 5);
         x.put(1, 3, 6);
         Check.due("four at most", x.cold(1, 1), 6 + 1);
         Check.due("as it is", x.best(1, 0), 7);

@@ -20,6 +20,7 @@ public final class LarderTest {
         now();
         last();
         keepAndBack();
+        keepAll();
         Check.finish("LarderTest");
     }
 
@@ -190,6 +191,7 @@ public final class LarderTest {
         x.put(2, 2, 1);
         Check.due("nothing lacking", x.lacks(0, false, 0, 0), 0);
         Check.due("lesser thing of the same age", x.lacks(0, false, 0, 2), 2);
+        Check.due("asked again", x.lacks(0, false, 0, 2), 2);
         Check.due("oldest first, then what is open", x.lacks(0, false, 2, 2), 2);
         Check.due("guests", x.lacks(0, true, 2, 2), 3);
         x.put(0, 1, 1);
@@ -355,5 +357,30 @@ public final class LarderTest {
         Check.due("image kept stays as it was", x.put(0, 1, 9), 1);
         x.back(0);
         Check.due("larder of the image", x.has(0, 1), 1);
+    }
+
+    private static void keepAll() {
+        NothingLeft x = Check.told("thing 4 1 1;thing 4 1 1;thing 4 1 1;thing 4 1 1;thing 4 1 1;thing 4 1 1;"
+            + "first;first;first;first;first;first;first;first;");
+        for (int s = 0; s < 8; s++) {
+            x.eat(s, false);
+            x.night();
+        }
+        for (int i = 0; i < 24; i++) {
+            x.put(i / 4, i % 4, i % 9 + 1);
+        }
+        x.keep(0);
+        Check.due("units of all", x.now(5), 2 * 45 + 21);
+        for (int s = 7; s >= 0; s--) {
+            x.night();
+            x.eat(s, false);
+        }
+        x.back(0);
+        for (int i = 0; i < 24; i++) {
+            Check.due("larder", x.has(i / 4, i % 4), i % 9 + 1);
+        }
+        for (int s = 0; s < 8; s++) {
+            Check.due("last", x.last(s), s);
+        }
     }
 }

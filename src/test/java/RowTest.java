@@ -82,6 +82,10 @@ public final class RowTest {
         rowIs("nobody in, ahead of too soon", x, 3, 1, 6, 2, 8, 0);
         days(x, NONE, NONE, NONE, NONE, 0, NONE, 0);
         rowIs("seven days", x, NONE, 0, 6, 2, 8, 0);
+        days(x, 1);
+        rowIs("lacking", x, 0, 3, 0, 0, 0, 0);
+        days(x, NONE);
+        rowIs("no reason stays", x, NONE, 0, 0, 0, 0, 0);
     }
 
     private static void rowFromNowOn() {
@@ -134,6 +138,13 @@ public final class RowTest {
         rowIs("the next day", x, NONE, 0, 0, 0, 0, 1);
         days(x, NONE, NONE);
         rowIs("none on a day on which somebody is in", x, NONE, 0, 0, 0, 0, 0);
+        NothingLeft y = Check.told("thing 4 1 1;first;out 1;");
+        days(y, NONE);
+        rowIs("none on such a first day", y, NONE, 0, 0, 0, 0, 0);
+        days(y, NONE, NONE);
+        rowIs("none on such a first day, and on one on which nobody is in", y, NONE, 0, 0, 0, 0, 0);
+        days(y, 0, NONE);
+        rowIs("none on a second day on which nobody is in", y, NONE, 0, 0, 0, 0, 1);
     }
 
     private static void rowCloses() {
@@ -163,6 +174,13 @@ public final class RowTest {
         NothingLeft y = Check.told("thing 1 2 3;first a 1;");
         days(y, 0);
         rowIs("something is thrown", y, NONE, 0, 3, 1, 0, 0);
+        for (int t = 0; t < 6; t++) {
+            NothingLeft z = Check.told("thing 4 1 1;thing 4 1 1;thing 4 1 1;thing 4 1 1;thing 4 1 1;thing 4 1 1;first;");
+            days(z, 0);
+            rowIs("nothing there", z, NONE, 0, 0, 0, 0, 1);
+            z.put(t, 2, 1);
+            rowIs("one thing is older", z, NONE, 0, 0, 0, 0, 0);
+        }
     }
 
     private static void rowClosesAgain() {

@@ -56,6 +56,9 @@ public final class SheetTest {
         x.sheet(0, 2, 3);
         readIs(x, 0, 2, 0, 1, 1, 0);
         Check.due("a new row has cells 0", x.has(0, 3), 0);
+        cells(x, 0, 2, 1, 3, 7);
+        x.sheet(0, 2, 3);
+        readIs(x, 0, 2, 0, 1, 1, 0);
     }
 
     private static void lay() {

@@ -15,6 +15,7 @@ public final class TextTest {
         faultsOfTooMany();
         faultsOfThingsNotTold();
         faultsInOrder();
+        faultsBehindFaults();
         fault();
         thing();
         supper();
@@ -90,6 +91,13 @@ public final class TextTest {
         Check.due("end(5)", x.end(5), 8);
         Check.due("five bytes", x.count(4), 5);
         Check.due("text cut off", x.text(), -15);
+        Check.feed(x, "out 1;outs");
+        x.end(9);
+        Check.due("a name cut off", x.text(), -19);
+        Check.feed(x, "again 123");
+        x.end(8);
+        Check.due("a number cut off", x.text(), -16);
+        Check.due("its fault", x.fault(), 3);
         x.feed(0x616761696e20373bL);
         x.end(6);
         Check.due("feed behind the six", x.feed(0x333b202020202020L), 14);
@@ -150,6 +158,23 @@ public final class TextTest {
         Check.due("likes of old are gone", x.supper(0, 1), 0);
         Check.due("wont of old is gone", x.supper(0, 2), 0);
         Check.due("leaves of old are gone", x.supper(0, 20), 0);
+        Check.text(x, "first leaves a1b2c3d1e2f3;second leaves a1b2c3d1e2f3;guest 0 2;thing 4 1 1;thing 4 1 1;thing 4 1 1;thing 4 1 1;thing 4 1 1;thing 4 1 1;");
+        for (int t = 0; t < 6; t++) {
+            for (int age = 0; age < 4; age++) {
+                x.put(t, age, 9);
+            }
+        }
+        Check.due("a second shop", Check.text(x, "shop 3;"), 1);
+        Check.due("a third shop", Check.text(x, "first;second;shop 4;thing 4 1 1;thing 4 1 1;thing 4 1 1;thing 4 1 1;thing 4 1 1;thing 4 1 1;"), 9);
+        Check.due("no guests on day 0", x.rule(10), 0);
+        Check.due("larder of all is empty", x.now(5), 0);
+        for (int t = 0; t < 6; t++) {
+            Check.due("first leaves nothing", x.supper(0, 20 + t), 0);
+            Check.due("second leaves nothing", x.supper(1, 20 + t), 0);
+            for (int age = 0; age < 4; age++) {
+                Check.due("larder", x.has(t, age), 0);
+            }
+        }
         Check.text(x, "any 5 a;thing 1 1 1;");
         Check.text(x, "first;thing 1 1 1;");
         Check.due("units of an old soup are gone", x.supper(0, 3), 0);
@@ -190,6 +215,8 @@ public final class TextTest {
         Check.refused(" ;", 2, 1);
         Check.refused("again 1;;", 2, 8);
         Check.refused("againagain 1;", 2, 0);
+        Check.refused("xgain 1;", 2, 0);
+        Check.refused("agaix 1;", 2, 0);
         Check.refused("thing", 2, 5);
         Check.refused("thing   ", 2, 8);
         Check.refused("thing;", 2, 5);
@@ -286,6 +313,8 @@ public final class TextTest {
 
     private static void faultsOfThingsNotTold() {
         Check.refused("first a 1;", 6, 6);
+        Check.refused("any 1 a;", 6, 6);
+        Check.refused("any 1 f;", 6, 6);
         Check.refused("thing 1 1 1;first a 1 b 1;", 6, 22);
         Check.refused("thing 1 1 1;first leaves a 1 b 1;", 6, 29);
         Check.refused("thing 1 1 1;any 1 acb;", 6, 18);
@@ -306,6 +335,21 @@ public final class TextTest {
         Check.refused("any 1 aa %", 3, 6);
         Check.refused("xyz %", 2, 0);
         Check.refused("thing 1 1 %", 1, 10);
+    }
+
+    /** From each token on, all are none: the first of them is the fault. */
+    private static void faultsBehindFaults() {
+        String[] tokens = ("thing 1 2 3 ; any 3 a leaves a 1 like 1 wont p ; first a 1 leaves a 2 like 3 wont qr ; again 4 ; shop 1 2 ; "
+            + "out 1 ; guest 2 3 ;").split(" ");
+        for (int i = 0; i < tokens.length; i++) {
+            StringBuilder text = new StringBuilder();
+            int place = 0;
+            for (int j = 0; j < tokens.length; j++) {
+                place = j == i ? text.length() : place;
+                text.append(j < i ? tokens[j] : "000").append(' ');
+            }
+            Check.refused(text.toString(), 1, place);
+        }
     }
 
     private static void fault() {
