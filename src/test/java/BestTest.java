@@ -175,6 +175,9 @@ public final class BestTest {
         surestIs("guests for sure on the third day", y, 3, 0, 1, 0, 0, 0);
         y.put(0, 0, 4);
         surestIs("one chance of two", y, 3, 1, 2, 0, 0, 0);
+        NothingLeft none = Check.told("thing 4 1 0;second a 3;second a 1;guest 0 4;");
+        none.put(0, 0, 1);
+        surestIs("not likely at all, but it may be without guests", none, 1, 0, 1, 1);
         NothingLeft z = Check.told("first;out 0;guest 0 4;");
         surestIs("nobody is in", z, 2, 1, 1, NONE, 0);
     }
