@@ -280,6 +280,11 @@ public final class BestTest {
         Check.due("the best one", x.dish(4), 0);
         Check.due("eight suppers", x.count(1), 8);
         Check.due("no ninth supper", x.supper(8, 0), BAD);
+        NothingLeft y = Check.told("thing 2 1 0;" + eight.replace(" a", " b") + "again 2;");
+        Check.due("of a", y.small(0, 2), 0);
+        Check.due("of b alone, behind that", y.small(1, 2), 1);
+        Check.due("of a again", y.small(0, 2), 0);
+        Check.due("the second thing's", y.dish(2), 1);
     }
 
     private static void dish() {
