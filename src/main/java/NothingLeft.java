@@ -1197,10 +1197,10 @@ public final class NothingLeft {
             }
             told.suppers = s + 1;
             told.kind[s] = kind;
-            if (!(kind == ANY ? readSoup(s) : readPortions(told.wants, s))) {
+            if (!(kind == ANY ? readSoup(s) : readPortions(told.wants, s, true))) {
                 return false;
             }
-            if (isName("leaves") && !readPortions(told.leaves, s)) {
+            if (isName("leaves") && !readPortions(told.leaves, s, false)) {
                 return false;
             }
             if (isName("like") && !readLike(s)) {
@@ -1252,13 +1252,13 @@ public final class NothingLeft {
             }
         }
 
-        /** Reads things and their units, and the token behind them. */
-        private boolean readPortions(int[] into, int s) {
+        /** Reads things and their units, and the token behind them; "leaves" is one of those behind wants alone. */
+        private boolean readPortions(int[] into, int s, boolean leavesMayFollow) {
             for (int i = 0; i <= THINGS; i++) {
                 if (!readToken()) {
                     return false;
                 }
-                if (token != NAME || isName("leaves") || isName("like") || isName("wont")) {
+                if (token != NAME || isName("like") || isName("wont") || leavesMayFollow && isName("leaves")) {
                     return true;
                 }
                 int t = tape[start] - 'a';

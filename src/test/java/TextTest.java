@@ -245,6 +245,12 @@ public final class TextTest {
         Check.refused("thing 1 1 1;feast a 1", 2, 21);
         Check.refused("first leaves 1;", 2, 13);
         Check.refused("first leaves z 1;", 3, 13);
+        Check.refused("first leaves leaves;", 3, 13);
+        Check.refused("thing 1 1 1;second a 1 leaves a 2 leaves;", 3, 34);
+        Check.refused("thing 1 1 1;any 1 a leaves a 1 leaves a 1;", 3, 31);
+        Check.refused("first leaves like 1 leaves;", 2, 20);
+        Check.refused("first wont p leaves;", 2, 13);
+        Check.refused("any 1 a b leaves;", 2, 8);
         Check.refused("first a 1 leaves a 1 a 1;thing 1 1 1;", 4, 21);
         Check.refused("first a 1 leaves a 4;thing 1 1 1;", 3, 19);
         Check.refused("first like;", 2, 10);

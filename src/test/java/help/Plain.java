@@ -193,10 +193,10 @@ public final class Plain {
         return word;
     }
 
-    private String portions(int[] into) throws Refused {
+    private String portions(int[] into, List<String> behind) throws Refused {
         while (true) {
             String word = go();
-            if (!word.matches("[a-z]+") || List.of("leaves", "like", "wont").contains(word)) {
+            if (!word.matches("[a-z]+") || behind.contains(word)) {
                 return word;
             }
             if (!word.matches("[a-f]")) {
@@ -229,10 +229,10 @@ public final class Plain {
             }
             word = go();
         } else {
-            word = portions(d.wants);
+            word = portions(d.wants, List.of("leaves", "like", "wont"));
         }
         if (word.equals("leaves")) {
-            word = portions(d.leaves);
+            word = portions(d.leaves, List.of("like", "wont"));
         }
         if (word.equals("like")) {
             d.like = number(0, 9);
