@@ -1,13 +1,16 @@
 import java.util.Random;
 
-/** Runs of calls by chance (the same ones each time), each answer against the one of Plain. */
+/** Runs of calls by chance (the same ones each time), each answer against the one of Plain; at most 512 of one object. */
 public final class RandomTest {
-    private static final int RUNS = 1500;
+    private static final int RUNS = 3000;
+    // A step asks some 25 times at most.
+    private static final int STEPS_UP_TO = 470;
 
     private final Random random;
-    private final NothingLeft x = new NothingLeft();
-    private final Plain y = new Plain();
+    private NothingLeft x;
+    private Plain y;
     private String name = "";
+    private int calls;
 
     private RandomTest(int seed) {
         random = new Random(seed);
@@ -23,20 +26,34 @@ public final class RandomTest {
     }
 
     private void run(int seed) {
-        name = "run " + seed + " begins";
-        for (int i = 0; i < 25; i++) {
+        for (int i = 0; i < 6; i++) {
+            begin(seed);
+            tellText(text());
+            tellText(faulty(text()));
             tellText(faulty(text()));
         }
-        tellText(text());
-        for (int i = 0; i < 90; i++) {
-            step();
-        }
-        for (int what = -1; what <= 5; what++) {
-            same("count " + what, x.count(what), y.count(what));
+        for (int i = 0; i < 3; i++) {
+            begin(seed);
+            tellText(faulty(text()));
+            tellText(text());
+            while (calls < STEPS_UP_TO) {
+                step();
+            }
+            for (int what = -1; what <= 5; what++) {
+                same("count " + what, x.count(what), y.count(what));
+            }
         }
     }
 
+    private void begin(int seed) {
+        x = new NothingLeft();
+        y = new Plain();
+        name = "run " + seed;
+        calls = 0;
+    }
+
     private void same(String call, int got, int want) {
+        calls++;
         Check.due(name + ", " + call, got, want);
     }
 
@@ -70,8 +87,12 @@ public final class RandomTest {
         for (int what = -1; what < 27; what++) {
             same("rule " + what, x.rule(what), y.rule(what));
             for (int s = 0; s < 9; s++) {
-                same("supper " + s + " " + what, x.supper(s, what), y.supper(s, what));
-                same("thing " + s + " " + what, x.thing(s, what), y.thing(s, what));
+                if (oneIn(8)) {
+                    same("supper " + s + " " + what, x.supper(s, what), y.supper(s, what));
+                }
+                if (what <= 3 && oneIn(3)) {
+                    same("thing " + s + " " + what, x.thing(s, what), y.thing(s, what));
+                }
             }
         }
     }
@@ -203,19 +224,23 @@ public final class RandomTest {
 
     private void look(int t, int s, boolean guests) {
         for (int what = -1; what <= 6; what++) {
-            same("now " + what, x.now(what), y.now(what));
-            same("has " + what, x.has(t, what), y.has(t, what));
-            same("lacks " + what, x.lacks(s, guests, t, what), y.lacks(s, guests, t, what));
+            if (oneIn(4)) {
+                same("now " + what, x.now(what), y.now(what));
+                same("lacks " + what, x.lacks(s, guests, t, what), y.lacks(s, guests, t, what));
+            }
+            if (oneIn(2)) {
+                same("has " + what, x.has(t, what), y.has(t, what));
+            }
         }
         same("may", x.may(s, guests), y.may(s, guests));
         same("last", x.last(s), y.last(s));
-        for (int what = -1; what <= 14; what++) {
+        int more = below(16) - 1;
+        for (int what : new int[] { 0, 1 + below(5), more }) {
             same("row " + what, x.row(what), y.row(what));
         }
         if (y.count(2) <= 4) {
-            for (int what = -1; what <= 2; what++) {
-                same("bears " + what, x.bears(what), y.bears(what));
-            }
+            int part = about(0, 1);
+            same("bears " + part, x.bears(part), y.bears(part));
         }
     }
 }

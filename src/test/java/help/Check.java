@@ -1,3 +1,5 @@
+import java.util.Arrays;
+
 /** What the tests share: answers that are due, and texts fed in eights. */
 public final class Check {
     private static int wrong = 0;
@@ -55,25 +57,22 @@ public final class Check {
         return x;
     }
 
-    /** A text is refused, with its fault at its place, and nothing is changed by it. */
+    /** A text is refused, with its fault at its place, and nothing is changed by it but the tape, which is empty, and the fault. */
     public static void refused(String text, int fault, int place) {
-        NothingLeft x = told("thing 2 3 4; first a 2 like 5; again 3;");
-        x.put(0, 1, 7);
-        x.day(0);
-        x.keep(1);
+        NothingLeft x = Probe.lived();
+        NothingLeft other = Probe.lived();
+        x.end(0);
+        other.end(0);
         due("text '" + text + "'", text(x, text), -10 - place);
         due("fault of '" + text + "'", x.fault(), fault);
         due("tape behind '" + text + "'", x.count(4), 0);
-        due("things behind '" + text + "'", x.count(0), 1);
-        due("keeps behind '" + text + "'", x.thing(0, 0), 2);
-        due("pack behind '" + text + "'", x.thing(0, 1), 3);
-        due("suppers behind '" + text + "'", x.count(1), 1);
-        due("like behind '" + text + "'", x.supper(0, 1), 5);
-        due("again behind '" + text + "'", x.rule(0), 3);
-        due("shops behind '" + text + "'", x.rule(1), 127);
-        due("outs behind '" + text + "'", x.rule(2), 0);
-        due("larder behind '" + text + "'", x.has(0, 1), 7);
-        due("row behind '" + text + "'", x.count(2), 1);
-        due("images behind '" + text + "'", x.count(3), 1);
+        Probe.alikeButFault("text '" + text + "'", x, other);
+    }
+
+    /** Numbers outside of low to high: next to it, far off, and such as come back inside if they are cut, shifted or multiplied. */
+    public static int[] outside(int low, int high) {
+        int[] all = { low - 1, high + 1, low - 2, high + 2, -4, low + 256, low + 65536, low + (1 << 28), low + (1 << 29),
+            low + (1 << 30), Integer.MAX_VALUE, Integer.MAX_VALUE - 1, Integer.MIN_VALUE, Integer.MIN_VALUE + 1, Integer.MIN_VALUE + low };
+        return Arrays.stream(all).filter(v -> v < low || v > high).distinct().toArray();
     }
 }
