@@ -579,5 +579,24 @@ public final class LarderEdgeTest {
         x.put(0, 1, 8);
         Check.due("the image stays", x.back(0), 1);
         larder("of the image", x, 0, 0, 1, 0, 0);
+        NothingLeft all = Check.told(SIX + "first;".repeat(8));
+        for (int s = 0; s < 8; s++) {
+            all.eat(s, false);
+            all.night();
+        }
+        for (int i = 0; i < 24; i++) {
+            all.put(i / 4, i % 4, 1 + i % 9);
+        }
+        all.keep(1);
+        nights(all, 4);
+        all.eat(7, false);
+        all.night();
+        Check.due("its day", all.back(1), 8);
+        for (int s = 0; s < 8; s++) {
+            Check.due("eaten last, supper " + s, all.last(s), s);
+        }
+        for (int i = 0; i < 24; i++) {
+            Check.due("units of all", all.has(i / 4, i % 4), 1 + i % 9);
+        }
     }
 }

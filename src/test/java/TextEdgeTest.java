@@ -38,6 +38,7 @@ public final class TextEdgeTest {
         faultOfLatestText();
         textInPlaceOfWhatThereWas();
         whatIsNotToldIsAsAtFirst();
+        nothingOfFullTextsStays();
         thingsAndSuppersAsked();
         rulesAsked();
         Check.finish("TextEdgeTest");
@@ -631,6 +632,63 @@ public final class TextEdgeTest {
         Check.due("the row is empty", x.count(2), 0);
         Check.due("images are gone", x.count(3), 0);
         Check.due("day 0", x.now(0), 0);
+    }
+
+    // Both, of texts that tell as much as there may be: of the first and the last thing, supper, day.
+    private static void nothingOfFullTextsStays() {
+        String things = "thing4 4 60;".repeat(6);
+        String week = "again7;shop;out0;out1;out2;out3;out4;out5;out6;guest0 4;guest1 4;guest2 4;guest3 4;guest4 4;guest5 4;guest6 4;";
+        String[] texts = { things + "first a3b3c3d3e3f3;".repeat(8) + week, things + "second leaves a3b3c3d3e3f3;".repeat(8),
+            things + "any9abcdef like9wont pqrs;".repeat(8) };
+        int[][] fields = { { 0, 0, 0, 0, 63, 3, 0 }, { 1, 0, 0, 0, 0, 0, 3 }, { 3, 9, 15, 9, 63, 0, 0 } };
+        for (int i = 0; i < texts.length; i++) {
+            suppersAre("told", Check.told(texts[i]), fields[i]);
+            NothingLeft x = Check.told(texts[i]);
+            fillAndEat(x);
+            Check.due("lines of a text of less", Check.text(x, SIX + "feast;".repeat(8)), 14);
+            suppersAre("told anew", x, 2, 0, 0, 0, 0, 0, 0);
+            for (int s = 0; s < 8; s++) {
+                Check.due("never eaten", x.last(s), NONE);
+            }
+            for (int t = 0; t < 6; t++) {
+                for (int age = 0; age <= 3; age++) {
+                    Check.due("no units", x.has(t, age), 0);
+                }
+            }
+            NothingLeft y = Check.told(texts[i]);
+            Check.due("lines of a text of nothing", y.text(), 0);
+            Check.due("again", y.rule(0), 0);
+            Check.due("shops", y.rule(1), 127);
+            Check.due("nobody in", y.rule(2), 0);
+            for (int w = 0; w < 7; w++) {
+                Check.due("guests", y.rule(10 + w), 0);
+            }
+        }
+    }
+
+    private static void suppersAre(String name, NothingLeft x, int... fields) {
+        for (int s = 0; s < 8; s++) {
+            for (int what = 0; what <= 4; what++) {
+                Check.due(name + ", supper " + s + " " + what, x.supper(s, what), fields[what]);
+            }
+            for (int t = 0; t < 6; t++) {
+                Check.due(name + ", supper " + s + " wants " + t, x.supper(s, 10 + t), fields[5]);
+                Check.due(name + ", supper " + s + " leaves " + t, x.supper(s, 20 + t), fields[6]);
+            }
+        }
+    }
+
+    private static void fillAndEat(NothingLeft x) {
+        for (int s = 0; s < 8; s++) {
+            for (int t = 0; t < 6; t++) {
+                x.put(t, 0, 9);
+            }
+            x.eat(s, false);
+            x.night();
+        }
+        for (int t = 0; t < 6; t++) {
+            x.put(t, 0, 9);
+        }
     }
 
     // "Of a THING: 0 KEEPS, 1 PACK, 2 PRICE. BAD."; "Of a SUPPER: 0 kind .. 10 and t .. (any: 0); 20 and t"
