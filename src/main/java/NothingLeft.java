@@ -349,12 +349,10 @@ public final class NothingLeft {
     }
 
     public int small(int t, int n) {
-        return rules.hasThing(t) && n >= 1 && n <= PLAN_WITH_DISH ? closingWithDish(t, n) : BAD;
-    }
-
-    private int closingWithDish(int t, int n) {
-        otherRules.copyFrom(rules);
-        otherRules.addSmallDish(t);
+        if (!rules.hasThing(t) || n < 1 || n > PLAN_WITH_DISH) {
+            return BAD;
+        }
+        otherRules.copyWithSmallDish(rules, t);
         search.lookAtRows(otherRules, kitchen, n, false);
         return search.rowsClosing;
     }
@@ -366,9 +364,10 @@ public final class NothingLeft {
         int chosen = NONE;
         int most = -1;
         for (int t = 0; t < rules.things; t++) {
-            int closing = closingWithDish(t, n);
-            if (closing > most) {
-                most = closing;
+            otherRules.copyWithSmallDish(rules, t);
+            search.lookAtRows(otherRules, kitchen, n, false);
+            if (search.rowsClosing > most) {
+                most = search.rowsClosing;
                 chosen = t;
             }
         }
@@ -539,7 +538,9 @@ public final class NothingLeft {
             System.arraycopy(other.chances, 0, chances, 0, WEEK);
         }
 
-        void addSmallDish(int t) {
+        /** Asked of rules as a text tells them, which leave a place for it. */
+        void copyWithSmallDish(Rules other, int t) {
+            copyFrom(other);
             if (suppers > SUPPERS) {
                 return;
             }

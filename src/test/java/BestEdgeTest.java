@@ -384,6 +384,14 @@ public final class BestEdgeTest {
         Check.due("without it", x.closes(4, 0), 7);
         Check.due("it is none of them", x.count(1), 8);
         Check.due("without it", x.closes(2, 2), 255);
+        // 1 to 7 want nothing; 0 leaves what the dish wants. Again holds for the ninth, too: it is in some of these rows twice.
+        NothingLeft again = Check.told("thing 4 1 1;first leaves a 1;" + "first;".repeat(7) + "again 2;");
+        int[] without = { 0, 7 * 6, 7 * 6 * 5, 6 * 6 * 6 * 6 + 6 };
+        int[] with = { 0, 1, 3 * 7, 4 * 7 * 6 + 2 * 7 * 7 + 1 };
+        for (int n = 1; n <= 4; n++) {
+            Check.due("again, without it, " + n, again.closes(n, 0), without[n - 1]);
+            Check.due("again, with it, " + n, again.small(0, n), without[n - 1] + with[n - 1]);
+        }
         NothingLeft all = Check.told("thing 4 1 1;" + EIGHT);
         Check.due("nothing for the dish", all.small(0, 4), 4096);
         Check.due("the least", all.dish(4), 0);

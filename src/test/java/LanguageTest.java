@@ -6,8 +6,11 @@ import java.lang.reflect.Modifier;
 import java.nio.file.Files;
 import java.nio.file.Path;
 import java.util.Arrays;
+import java.util.Map;
 import java.util.Set;
+import java.util.TreeMap;
 import java.util.TreeSet;
+import java.util.regex.Matcher;
 import java.util.regex.Pattern;
 
 /** The face of the document, and those rules of LANGUAGE.md that a machine sees at once. */
@@ -17,6 +20,8 @@ public final class LanguageTest {
         + "lacks(int,boolean,int,int) last(int) lay(int,int,int) may(int,boolean) night() now(int) put(int,int,int) "
         + "read(int,int,int,int) row(int) rule(int) sheet(int,int,int) shortest() small(int,int) supper(int,int) surest(int,int) "
         + "text() thing(int,int) torn()";
+
+    private static final Set<String> LIBRARY = Set.of("min", "max", "floorMod", "arraycopy", "length", "charAt");
 
     public static void main(String[] args) throws IOException {
         constants();
@@ -102,6 +107,8 @@ public final class LanguageTest {
         Check.fine("no joining by +", !Pattern.compile("\"\\s*\\+|\\+\\s*\"").matcher(code).find());
         methodsMakeNothing(code);
         methodsAreShort(source);
+        callsAreShallow(code.replaceAll("\"[^\"]*\"|'[^']*'", ""));
+        onlyTheLibraryOfTheRules(code);
     }
 
     /** The room is one for all calls: objects are made by fields alone, as deep as a field of a class inside stands. */
@@ -125,5 +132,50 @@ public final class LanguageTest {
                 Check.fine("the method that ends in line " + number + " is short", number - begun <= 60);
             }
         }
+    }
+
+    /** Calls that are no recursion go at most eight deep, the library's own counted. Methods of one name are taken as one. */
+    private static void callsAreShallow(String code) {
+        Map<String, String> bodies = new TreeMap<>();
+        Matcher m = Pattern.compile("(?m)^ {4}(?: {4})?(?:public |private )?(?:static )?(?:int|boolean|void) (\\w+)\\([^)]*\\) \\{").matcher(code);
+        while (m.find()) {
+            int end = m.end();
+            for (int open = 1; open > 0; end++) {
+                open += code.charAt(end) == '{' ? 1 : code.charAt(end) == '}' ? -1 : 0;
+            }
+            bodies.merge(m.group(1), code.substring(m.end(), end), String::concat);
+        }
+        Check.fine("methods are found", bodies.size() > 100);
+        for (String name : LIBRARY) {
+            bodies.put(name, "");
+        }
+        for (String name : bodies.keySet()) {
+            int deep = deepest(name, bodies, 0);
+            Check.fine(name + " goes " + deep + " deep", deep <= 8);
+        }
+    }
+
+    private static int deepest(String name, Map<String, String> bodies, int ahead) {
+        // No method calls itself by any way: that would go on for ever here.
+        if (ahead > 20) {
+            return ahead;
+        }
+        int deepest = 0;
+        Matcher m = Pattern.compile("\\b(\\w+)\\(").matcher(bodies.get(name));
+        while (m.find()) {
+            deepest = bodies.containsKey(m.group(1)) ? Math.max(deepest, deepest(m.group(1), bodies, ahead + 1)) : deepest;
+        }
+        return deepest + 1;
+    }
+
+    /** What of the library is used is a part of what LANGUAGE.md lists. */
+    private static void onlyTheLibraryOfTheRules(String code) {
+        Matcher m = Pattern.compile("\\b(Math|Integer|Long|Arrays|System|List|String|StringBuilder|ArrayList)\\.(\\w+)|\\b(word)\\.(\\w+)").matcher(code);
+        while (m.find()) {
+            String used = m.group(2) == null ? m.group(4) : m.group(2);
+            Check.fine("used of the library: " + m.group(), LIBRARY.contains(used));
+        }
+        Check.fine("no doubles, floats", !Pattern.compile("\\b(double|float)\\b").matcher(code).find());
+        Check.fine("no arrays of arrays", !code.contains("[][]"));
     }
 }
